@@ -78,10 +78,12 @@ public final class ChangesTest {
         for (int number = 4; number < 12; number++) {
             due.due("one more", edges.paste(0, 0, 1, 1, number, 1), number);
         }
+        edges.buy(1, 5, 999);
         due.due("a thirteenth", edges.paste(0, 0, 1, 1, 1, 1), VarnishPrices.TOO_MANY);
         due.due("when one is torn", edges.tear(3), 10);
         due.due("a twelfth again", edges.paste(0, 0, 1, 1, 1, 1), 11);
         due.due("its sales", edges.poster(11, 8), 0);
+        due.due("what they brought", edges.poster(11, 9), 0);
         due.due("its varnish elsewhere", edges.varnish(11, 0, 5), VarnishPrices.NONE);
         due.due("nothing is left of the torn one", edges.cell(1, 5, 1), 0);
     }
@@ -291,6 +293,10 @@ public final class ChangesTest {
         v.put(Due.chars("0"));
         v.put(Due.chars("2:999"));
         due.due("put in parts", v.buyAll(), 2);
+        Due.write(v, "00:50;95:999");
+        due.due("the first one pays, the last one does not", v.buyAll(), 1);
+        Due.write(v, "00:999;10:999;20:999;00:999;10:999;20:999;00:999;10:999;00:9");
+        due.due("a full pad", v.buyAll(), 8);
     }
 
     private static void buyAllRefused(Due due) {

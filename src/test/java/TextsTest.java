@@ -101,6 +101,7 @@ public final class TextsTest {
         faultIs(due, "00:01", 4);
         faultIs(due, "00:0:", 4);
         faultIs(due, "00:1000", 6);
+        faultIs(due, "00:1001", 6);
         faultIs(due, "00:9999", 6);
         faultIs(due, "00:99:", 5);
         faultIs(due, "00:99,", 5);

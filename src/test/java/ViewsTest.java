@@ -128,6 +128,25 @@ public final class ViewsTest {
         for (int what : WILD) {
             due.due("count(" + what + ")", v.count(what), VarnishPrices.BAD_VALUE);
         }
+        VarnishPrices corner = new VarnishPrices();
+        corner.paste(0, 0, 2, 1, 5, 1);
+        corner.paste(0, 0, 1, 1, 6, 1);
+        due.due("the greatest price, in the first corner", corner.count(4), 6);
+        due.due("a varnish of 1 is not clear", corner.count(7), 0);
+        due.due("two posters with a varnish of 1", corner.cell(0, 0, 4), 2);
+        due.due("no cell of them is clear", corner.poster(0, 6), 0);
+        corner.tear(0);
+        corner.pass(1);
+        due.due("all clear, the torn one is not counted", corner.count(7), 1);
+        corner.paste(0, 0, 1, 1, 6, 1);
+        corner.pass(1);
+        corner.tear(1);
+        due.due("nor is a torn one that was clear", corner.count(7), 1);
+        due.due("nor is it among those unseen", corner.count(6), 1);
+        VarnishPrices last = new VarnishPrices();
+        last.paste(8, 5, 2, 1, 5, 1);
+        last.paste(9, 5, 1, 1, 6, 1);
+        due.due("the greatest price, in the last corner", last.count(4), 6);
         VarnishPrices alike = new VarnishPrices();
         alike.paste(0, 0, 1, 1, 5, 1);
         alike.paste(2, 0, 1, 1, 6, 1);

@@ -88,6 +88,11 @@ public final class WhatIfTest {
         clear.paste(5, 5, 1, 1, 9, 3);
         clear.scrape(5, 5, 3);
         due.due("a clear cell above", clear.nextChange(), 3);
+        VarnishPrices thin = new VarnishPrices();
+        thin.paste(0, 0, 1, 1, 8, 1);
+        thin.paste(0, 0, 1, 1, 9, 1);
+        thin.paste(0, 0, 1, 1, 9, 1);
+        due.due("another price with a varnish of 1", thin.nextChange(), 2);
         clear.scrape(5, 5, 3);
         due.due("nothing is shown", clear.nextChange(), VarnishPrices.NONE);
     }
@@ -124,6 +129,17 @@ public final class WhatIfTest {
         for (int poster : new int[] {3, 12, -1, Integer.MAX_VALUE, Integer.MIN_VALUE}) {
             due.due("comesToLight(" + poster + ")", v.comesToLight(poster), VarnishPrices.NO_SUCH);
         }
+        VarnishPrices torn = Dump.made(STACK);
+        torn.tear(2);
+        due.due("a torn one hides nothing", torn.comesToLight(0), 2);
+        torn.tear(1);
+        due.due("nor do two", torn.comesToLight(0), 0);
+        VarnishPrices full = new VarnishPrices();
+        for (int i = 0; i < 12; i++) {
+            full.paste(0, 0, 1, 1, 5, 4);
+        }
+        due.due("twelve of them", full.comesToLight(0), 44);
+        due.due("the highest of twelve", full.comesToLight(11), 0);
         VarnishPrices clear = new VarnishPrices();
         due.due("no poster", clear.comesToLight(0), VarnishPrices.NO_SUCH);
         clear.paste(0, 0, 1, 1, 1, 1);
