@@ -26,7 +26,7 @@ public final class UndoAndSavingTest {
         due.end();
     }
 
-    /** The wall as the setup leaves it, behind the six changes that make the history full. */
+    /** WALL records five states, so that the history takes one more and drops none. */
     private static void undone(Due due, String name, ToLongFunction<VarnishPrices> change) {
         VarnishPrices before = Dump.made(WALL);
         int recorded = before.count(11);
