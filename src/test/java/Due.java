@@ -3,15 +3,41 @@ import java.util.function.ToLongFunction;
 
 /** Counts answers that are not the ones that are due; a test ends by end(). */
 final class Due {
+    static final int NO_SUCH = -1, BAD_VALUE = -2, BAD_TEXT = -3, TOO_MANY = -4, NOT_POSSIBLE = -5, NONE = -6;
+
     private int right = 0;
     private int wrong = 0;
+    private String sentence = "";
+    private int askedBefore = 0;
+
+    /** A call with one number that is to be tried at the ends of its range. */
+    interface Asked {
+        int with(VarnishPrices prices, int number);
+    }
+
+    /** What is due from here on stands in this sentence of the document. */
+    void sentence(String words) {
+        endSentence();
+        sentence = words;
+    }
+
+    private void endSentence() {
+        if (!sentence.isEmpty() && right + wrong == askedBefore) {
+            wrong("nothing is asked of it");
+        }
+        askedBefore = right + wrong;
+    }
+
+    private void wrong(String text) {
+        wrong++;
+        System.out.println((sentence.isEmpty() ? "" : "\"" + sentence + "\": ") + text);
+    }
 
     void due(String call, long got, long want) {
         if (got == want) {
             right++;
         } else {
-            wrong++;
-            System.out.println(call + " answered " + got + ", due is " + want);
+            wrong(call + " answered " + got + ", due is " + want);
         }
     }
 
@@ -19,8 +45,7 @@ final class Due {
         if (got.equals(want)) {
             right++;
         } else {
-            wrong++;
-            System.out.println(what + ": is\n" + got + "due is\n" + want);
+            wrong(what + ": is\n" + got + "due is\n" + want);
         }
     }
 
@@ -28,8 +53,18 @@ final class Due {
         if (so) {
             right++;
         } else {
-            wrong++;
-            System.out.println("does not hold: " + what);
+            wrong("does not hold: " + what);
+        }
+    }
+
+    /** Each number of the range is taken, and each beyond it refused, and then nothing changes. */
+    void range(String call, int least, int most, Consumer<VarnishPrices> setup, Asked asked, int refusal) {
+        for (int number = least; number <= most; number++) {
+            int got = asked.with(Dump.made(setup), number);
+            holds(call + " takes " + number + ", answered " + got, got >= 0 || got == NONE);
+        }
+        for (int number : new int[] {least - 1, most + 1, -1 - most, Integer.MIN_VALUE, Integer.MAX_VALUE}) {
+            unchanged(call + " of " + number, setup, v -> asked.with(v, number), refusal);
         }
     }
 
@@ -41,6 +76,7 @@ final class Due {
     }
 
     void end() {
+        endSentence();
         System.out.println(right + " right, " + wrong + " wrong");
         if (wrong > 0 || right == 0) {
             System.exit(1);

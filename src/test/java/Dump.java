@@ -1,8 +1,8 @@
 import java.util.function.Consumer;
 
 /**
- * All that can be asked of an object that a setup has made. As an object answers for 512 calls only, the setup is
- * run again on a fresh one for each part.
+ * All that can be asked of an object that a setup has made, of the states that undo leads back to, and of what the
+ * slots keep. As an object answers for 512 calls only, the setup is run again on a fresh one for each part.
  */
 final class Dump {
     private static final int HALF = 6;
@@ -17,12 +17,30 @@ final class Dump {
 
     static String of(Consumer<VarnishPrices> setup) {
         StringBuilder text = new StringBuilder();
+        state(setup, text);
+        int past = made(setup).count(11);
+        Consumer<VarnishPrices> undone = setup;
+        for (int back = 1; back <= past; back++) {
+            undone = undone.andThen(VarnishPrices::undo);
+            text.append("undone ").append(back).append('\n');
+            state(undone, text);
+        }
+        for (int slot = 0; slot < 2; slot++) {
+            int kept = slot;
+            int posters = made(setup).restore(kept);
+            text.append("slot ").append(posters).append('\n');
+            if (posters >= 0) {
+                state(setup.andThen(v -> v.restore(kept)), text);
+            }
+        }
+        return text.toString();
+    }
+
+    private static void state(Consumer<VarnishPrices> setup, StringBuilder text) {
         wall(made(setup), text);
         posters(made(setup), text);
         varnish(made(setup), 0, text);
         varnish(made(setup), HALF, text);
-        pastAndSlots(setup, text);
-        return text.toString();
     }
 
     private static void wall(VarnishPrices prices, StringBuilder text) {
@@ -65,18 +83,6 @@ final class Dump {
                 text.append(' ').append(prices.varnish(poster, place % 10, place / 10));
             }
             text.append('\n');
-        }
-    }
-
-    private static void pastAndSlots(Consumer<VarnishPrices> setup, StringBuilder text) {
-        VarnishPrices past = made(setup);
-        while (past.undo() >= 0) {
-            numbers(past, text);
-        }
-        for (int slot = 0; slot < 2; slot++) {
-            VarnishPrices restored = made(setup);
-            text.append("slot ").append(restored.restore(slot)).append('\n');
-            numbers(restored, text);
         }
     }
 }

@@ -9,6 +9,7 @@ import java.util.Arrays;
 import java.util.List;
 import java.util.Set;
 import java.util.TreeSet;
+import java.util.regex.Matcher;
 import java.util.regex.Pattern;
 
 /** The public face and the rules of LANGUAGE.md that can be seen without much reading. */
@@ -22,6 +23,9 @@ public final class FaceTest {
     private static final String[] FORBIDDEN = {"\\bthrow\\b", "\\btry\\b", "\\bcatch\\b", "\\bassert\\b",
         "\\bsynchronized\\b", "\\bimport\\b", "\\bpackage\\b", "->", "::", "\\bvolatile\\b", "Exact\\(",
         "\\bfinally\\b", "\\bnative\\b", "%\\s*0", "static\\s*\\{"};
+    private static final Set<String> LIBRARY = Set.of("Math.min", "Math.max", "System.arraycopy");
+    private static final Pattern METHOD =
+            Pattern.compile("(?m)^( {4}| {8})(private |public |static )*\\w+ \\w+\\([^;]*\\{$");
 
     private FaceTest() { }
 
@@ -31,7 +35,10 @@ public final class FaceTest {
         methods(due);
         hiddenMembers(due);
         insideClasses(due);
-        source(due, Files.readString(Path.of("src/main/java/VarnishPrices.java")));
+        String text = Files.readString(Path.of("src/main/java/VarnishPrices.java"));
+        source(due, text);
+        library(due, text);
+        lengths(due, text);
         due.end();
     }
 
@@ -86,12 +93,20 @@ public final class FaceTest {
     }
 
     private static void insideClasses(Due due) {
+        Set<String> publicNames = new TreeSet<>();
+        for (String method : METHODS) {
+            publicNames.add(method.split(" ")[0]);
+        }
         List<Class<?>> inside = List.of(VarnishPrices.class.getDeclaredClasses());
         due.holds("at most twelve classes", inside.size() <= 11);
         for (Class<?> type : inside) {
             due.holds(type.getName() + " is static", Modifier.isStatic(type.getModifiers()));
             due.holds(type.getName() + " isn't public", !Modifier.isPublic(type.getModifiers()));
             due.holds(type.getName() + " has no classes inside", type.getDeclaredClasses().length == 0);
+            for (Method method : type.getDeclaredMethods()) {
+                due.holds(method + " has no public one's name", !publicNames.contains(method.getName()));
+                due.holds(method + " takes at most seven parameters", method.getParameterCount() <= 7);
+            }
             for (Field field : type.getDeclaredFields()) {
                 due.holds(field + " is final or not static",
                         Modifier.isFinal(field.getModifiers()) || !Modifier.isStatic(field.getModifiers()));
@@ -105,5 +120,31 @@ public final class FaceTest {
             due.holds("no " + forbidden, !Pattern.compile(forbidden).matcher(code).find());
         }
         due.holds("ASCII alone", text.chars().allMatch(sign -> sign < 128));
+    }
+
+    /** What is used by a class's name is the library's few functions or the program's own. */
+    private static void library(Due due, String text) {
+        Set<String> own = new TreeSet<>();
+        for (Class<?> type : VarnishPrices.class.getDeclaredClasses()) {
+            own.add(type.getSimpleName());
+        }
+        String code = text.replaceAll("(?s)/\\*.*?\\*/", "").replaceAll("//[^\n]*", "");
+        Matcher used = Pattern.compile("\\b([A-Z]\\w*[a-z]\\w*)\\.(\\w+)").matcher(code);
+        while (used.find()) {
+            due.holds(used.group() + " is allowed", LIBRARY.contains(used.group()) || own.contains(used.group(1)));
+        }
+        due.holds("no texts are joined", code.indexOf('"') < 0);
+    }
+
+    private static void lengths(Due due, String text) {
+        int methods = 0;
+        Matcher method = METHOD.matcher(text);
+        while (method.find()) {
+            methods++;
+            int end = text.indexOf("\n" + method.group(1) + "}", method.end());
+            long lines = text.substring(method.start(), Math.max(method.start(), end)).lines().count();
+            due.holds("some lines and at most sixty: " + method.group().strip(), lines > 1 && lines <= 60);
+        }
+        due.holds("methods are found", methods > METHODS.length);
     }
 }

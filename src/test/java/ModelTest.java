@@ -146,7 +146,8 @@ public final class ModelTest {
             text.append(upTo(1) == 0 ? upTo(999) : upTo(mostPrice));
         }
         if (upTo(2) == 0) {
-            text.setCharAt(upTo(text.length() - 1), upTo(1) == 0 ? (char) (33 + upTo(93)) : "0123456789:;".charAt(upTo(11)));
+            int at = upTo(text.length() - 1);
+            text.setCharAt(at, upTo(1) == 0 ? (char) (33 + upTo(93)) : "0123456789:;".charAt(upTo(11)));
         }
         int from = 0;
         while (from < text.length()) {
