@@ -526,7 +526,11 @@ public final class AnswerSentencesTest {
         due.due("one is over it", clear.comesToLight(0), Due.NONE);
         VarnishPrices dark = Dump.made(hidden.andThen(lasts(6, 3, 1)));
         dark.sun(6, 0);
-        due.due("without a sun", dark.comesToLight(0), Due.NONE);
+        due.due("behind one, without a sun", dark.comesToLight(0), Due.NONE);
+        dark.scrape(6, 3, 1);
+        due.due("behind a clear one, without a sun", dark.comesToLight(0), 0);
+        dark.undo();
+        due.due("behind one again", dark.comesToLight(0), Due.NONE);
         due.due("the upper one is seen without a sun", dark.comesToLight(1), 0);
     }
 

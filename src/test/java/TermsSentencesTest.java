@@ -399,6 +399,19 @@ public final class TermsSentencesTest {
         v.pass(1);
         due.due("the next day it fades there, too", v.varnish(0, 0, 0), 8);
         due.due("and everywhere", v.poster(0, 10), 15 * 8 + 45 * 7);
+        VarnishPrices hidden = new VarnishPrices();
+        hidden.paste(0, 0, 1, 1, 5, 99);
+        hidden.paste(0, 0, 1, 1, 6, 50);
+        hidden.paste(0, 0, 1, 1, 7, 9);
+        for (int days = 1; days <= 8; days++) {
+            due.due("one day more", hidden.pass(1), 0);
+            due.due("the one that is seen", hidden.varnish(2, 0, 0), 9 - days);
+            due.due("the one below it", hidden.varnish(1, 0, 0), 50);
+            due.due("the lowest one", hidden.varnish(0, 0, 0), 99);
+        }
+        due.due("eleven days at once", hidden.pass(11), 1);
+        due.due("the one below it then", hidden.varnish(1, 0, 0), 40);
+        due.due("the lowest one", hidden.varnish(0, 0, 0), 99);
         VarnishPrices strong = new VarnishPrices();
         strong.sun(0, 9);
         strong.paste(0, 0, 1, 1, 5, 3);
